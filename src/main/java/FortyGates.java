@@ -620,10 +620,7 @@ public final class FortyGates {
             v[size] = itsV;
             turn[size] = itsTurn;
             line[size] = 1;
-            // an undone gate may have left its row here
-            for (int k = 0; k < ROW; k++) {
-                rows[size * ROW + k] = 0;
-            }
+            // its row is 0: no row changes ahead of its gate, and an undo brings all rows back
             return size++;
         }
 
@@ -822,32 +819,31 @@ public final class FortyGates {
             return n >= 0;
         }
 
-        /** E: what holds by any of its parts; so many of ! and ( are open around it. */
+        /** E, with the T of which it is made; so many of ! and ( are open around it. */
         private boolean readAny(int open) {
-            if (!readEvery(open)) {
-                return false;
-            }
-            for (int i = 0; i < MAX_SIGNS && take('|'); i++) {
-                if (!readEvery(open)) {
-                    return false;
-                }
-                made.write(Clauses.OR);
-            }
-            return true;
-        }
-
-        /** T: what holds by every one of its parts. */
-        private boolean readEvery(int open) {
-            if (!readPart(open)) {
-                return false;
-            }
-            for (int i = 0; i < MAX_SIGNS && take('&'); i++) {
+            boolean both = false;
+            boolean either = false;
+            for (int i = 0; i < MAX_SIGNS; i++) {
                 if (!readPart(open)) {
                     return false;
                 }
-                made.write(Clauses.AND);
+                if (both) {
+                    made.write(Clauses.AND);
+                }
+                both = take('&');
+                if (both) {
+                    continue;
+                }
+                // here a T ends, so what stood ahead of it joins it only now
+                if (either) {
+                    made.write(Clauses.OR);
+                }
+                either = take('|');
+                if (!either) {
+                    return true;
+                }
             }
-            return true;
+            return false;
         }
 
         /** F. The sign that would be open as the sixth is not taken, as it is the fault. */
@@ -931,12 +927,14 @@ public final class FortyGates {
 
         /** Which one of some signs was taken; -1: none. */
         private int takeOneOf(String some) {
-            for (int i = 0; i < some.length(); i++) {
-                if (take(some.charAt(i))) {
-                    return i;
-                }
+            if (place >= size) {
+                return -1;
             }
-            return -1;
+            int which = some.indexOf((char) signs[place]);
+            if (which >= 0) {
+                place++;
+            }
+            return which;
         }
     }
 
@@ -951,6 +949,7 @@ public final class FortyGates {
         private final int[] over = new int[MAX_GATES * PACES * LINES];
         private final int[] takes = new int[MAX_GATES * PACES * LINES];
         private final int[] behind = new int[MAX_GATES * PACES * LINES];
+        /** What tests ask of, in the order of their letters; the pace among them is never looked at. */
         private final int[] facts = new int[6];
         private final int[] ice = new int[PACES];
         private final int[] wax = new int[PACES];

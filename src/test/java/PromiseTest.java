@@ -180,6 +180,7 @@ public final class PromiseTest {
         due("3: the newest one alone holds", x.told(1), 0);
         due("3: its fog", x.told(2), 8);
         due("3: third", slope(x, "rut 1"), 2);
+        due("3: no fog", x.told(2), 0);
         due("3: fourth", slope(x, "rut 2"), 3);
         due("3: fifth", slope(x, "rut 3"), 4);
         due("3: sixth", slope(x, "rut 4"), -4);
@@ -337,6 +338,8 @@ public final class PromiseTest {
         passes(GATE, 1, "wax 52 g=0", 1, 0, 2);
         passes(GATE, 1, "wax 53 g=0", 1, 0, 2);
         passes(GATE, 1, "wax 51 g=0", 2, 0, 2);
+        passes(GATE, 1, "ice 1 t=6;ice 1 t=6;ice 1 t=6;ice 1 t=6;ice 1 t=6;ice 1 t=6;ice 1 t=6;ice 1 t=6;ice 1 t=6;ice 1 t=6",
+                83, 10, 0);
         passes(STEEP, 1, "wax 5 p=3", 47, 1, 2);
         passes(STEEP, 1, "wax 5 p=4", 52, 1, 2);
         passes(TIGHT, 1, "wax 5 t=6", 54, 2, 0);
@@ -370,6 +373,9 @@ public final class PromiseTest {
         due("13: pace behind all", x.would(0, 1), 2);
         due("13: slides somewhere", x.would(0, 2), 1);
         due("13: over at another", x.would(0, 23), 0);
+        x.turn(4, 0);
+        due("13: slides nowhere now", x.would(0, 2), 0);
+        x.turn(4, 9);
         int[] none = {-1, 3, 9, 15, 19, 25, 30, MAX, MIN};
         for (int what : none) {
             due("13: what " + what, x.would(0, what), -1);
@@ -465,6 +471,22 @@ public final class PromiseTest {
         // by 3: over 4, pace behind 0; by 0: over 1, pace behind 0; so 16 by 20, and six times 19 by 20
         due("16: seven above", seven.up(0, 0), 47045881L);
         due("16: seven below", seven.up(0, 1), 80000000L);
+        long above = 1;
+        for (int gates = 1; gates <= 7; gates++) {
+            FortyGates some = new FortyGates();
+            some.skier(0);
+            for (int i = 0; i < gates; i++) {
+                some.gate(GATE, 0, 9);
+            }
+            // by 3: over 5, pace behind 0; by 0: over 2; so 3 by 4, and else 9 by 10
+            due("16: " + gates + " above", some.up(0, 0), 3 * above);
+            due("16: " + gates + " below", some.up(0, 1), 4 * tens(gates - 1));
+            above *= 9;
+        }
+    }
+
+    private static long tens(int n) {
+        return n == 0 ? 1 : 10 * tens(n - 1);
     }
 
     private static void surestSure() {
@@ -487,6 +509,9 @@ public final class PromiseTest {
         due("18: no skier", x.sure(1, 1000, 0), -1);
         FortyGates all = one(GATE, 0, 9);
         due("18: of several the first", all.sure(0, 100, 0), 0);
+        FortyGates afresh = one(STEEP, 6, 2);
+        due("18: asked alone", afresh.sure(0, 54, 0), 2);
+        due("18: another time asked", afresh.sure(0, 53, 0), 1);
         slope(all, "ice 99 g=0");
         due("18: by none one stays up, the first", all.sure(0, 999, 0), 0);
         due("17: by none one stays up", all.surest(0, 999, 1), 1);
@@ -522,6 +547,9 @@ public final class PromiseTest {
         due("20: -1", x.start(0, -1), -2);
         due("20: NONE ahead", x.start(1, 100), -1);
         due("20: changes nothing", x.told(0), 1);
+        slope(x, "wax 4 r=3;wax 2 r=2");
+        due("20: wax helps", x.start(0, 3), 57);
+        due("20: less wax", x.start(0, 2), 50);
     }
 
     private static void rutted() {
@@ -535,9 +563,20 @@ public final class PromiseTest {
         due("21: whatever runs there are", x.rutted(0), 7);
         slope(x, "rut 99;wax 56 g=0");
         due("21: by 99", x.rutted(0), 99);
+        slope(x, "rut 50;wax 57 g=0");
+        due("21: by 100, not asked", x.rutted(0), -5);
         slope(x, "wax 99 r=0");
         due("21: by 1", x.rutted(0), 1);
         due("21: no skier", x.rutted(1), -1);
+        FortyGates seven = new FortyGates();
+        seven.skier(9);
+        for (int i = 0; i < 7; i++) {
+            seven.gate(GATE, 0, 0);
+        }
+        due("21: seven, by none", seven.rutted(0), -5);
+        // where the last gate is icy by any pace, a higher line is quicker there
+        slope(seven, "ice 20 r=4&g=6");
+        due("21: seven, by the last", seven.rutted(0), 4);
     }
 
     private static void wax() {
@@ -734,6 +773,7 @@ public final class PromiseTest {
         due("31: first gate", x.fits(0, 0), 1);
         due("31: second gate", x.fits(0, 1), 0);
         due("31: fewer", x.fits(0, 2), -5);
+        due("31: fewer, 6", x.fits(0, 6), -5);
         x.see(0, 52);
         due("31: both so", x.fits(0, -1), 1);
         x.see(0, 54);
@@ -898,6 +938,11 @@ public final class PromiseTest {
             x.book(0, 61);
             slope(x, "og 9;ice 2 g=0;wax 9 g=0");
             x.feed('q');
+            x.feed('r');
+            x.see(-1, 0);
+            x.see(0, 61);
+            x.book(-1, 0);
+            x.book(1, 62);
             due("39: undo", x.undo(), 1);
             due("39: gates", x.count(0), 1);
             due("39: skiers", x.count(1), 1);
@@ -913,16 +958,57 @@ public final class PromiseTest {
             due("39: skill", x.skill(0, -1), 2);
             due("39: row", x.row(0, 1, 7), 7);
             due("39: would", x.would(0, 0), would);
+            due("39: seen is as it was", x.fits(0, -1), 0);
+            due("39: book is as it was", x.looked(), 0);
         }
         due("39: a row behind an undo is 0", x.gate(TOLD, 1, 1), 1);
         due("39: the row", x.row(1, 0, 3), 0);
         due("39: the line", x.of(1, 3), 1);
+        due("39: two gates", x.quickest(0, 1), 0);
+        x.undo();
+        due("39: a time of one gate", x.quickest(0, -1), 56);
+        due("39: two again", x.gate(TOLD, 1, 1), 1);
+        due("39: the row", x.row(1, 0, 3), 0);
         due("38: the next image", x.image(), 2);
         x.gate(GATE, 0, 0);
         due("39: undo to the next", x.undo(), 2);
         due("39: the row there", x.row(1, 0, 0), 3);
         due("39: the tape goes on", slope(x, "og 6"), 1);
         due("39: its fog", x.told(2), 6);
+        imageOfNotes();
+        FortyGates seven = new FortyGates();
+        for (int i = 0; i < 7; i++) {
+            seven.gate(TOLD, i, i);
+        }
+        seven.row(6, 3, 8);
+        seven.image();
+        seven.row(6, 3, 4);
+        seven.turn(6, 0);
+        seven.plan(6, 0);
+        due("39: seven", seven.undo(), 7);
+        due("39: the last row", seven.row(6, 3, 1), 8);
+        due("39: the last turn", seven.of(6, 2), 6);
+        due("39: the last line", seven.of(6, 3), 1);
+    }
+
+    private static void imageOfNotes() {
+        FortyGates x = one(TIGHT, 9, 0);
+        due("39: by line 2, and by 0 behind it", x.quickest(0, -1), 70);
+        x.see(0, 70);
+        x.book(0, 70);
+        x.image();
+        x.gate(FLAT, 0, 0);
+        due("39: one gate more", x.quickest(0, -1), 160);
+        x.see(-1, 0);
+        x.see(0, 9);
+        x.book(-1, 0);
+        x.book(0, 9);
+        due("39: not so", x.fits(0, -1), 0);
+        due("39: not so in the book", x.looked(), 0);
+        x.undo();
+        due("39: one gate", x.quickest(0, -1), 70);
+        due("39: so again", x.fits(0, 0), 2);
+        due("39: so again in the book", x.looked(), -5);
     }
 
     private static void count() {
