@@ -1114,7 +1114,7 @@ public final class FortyGates {
                 took[gate] = takes[at];
                 overThere[gate] = over[at];
                 total += takes[at];
-                slides |= over[at] > 0;
+                slides = slides || over[at] > 0;
                 chances *= CHANCES - over[at];
                 paceBehind = behind[at];
             }
