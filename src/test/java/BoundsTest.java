@@ -26,6 +26,7 @@ public final class BoundsTest {
         fractions();
         lines();
         within();
+        surerAhead();
         carry();
         startRutted();
         wax();
@@ -43,6 +44,9 @@ public final class BoundsTest {
         acts();
         actsOfSeven();
         fullAndUndone();
+        noted();
+        longSlopes();
+        conditions();
         noGates();
         CHECK.end();
     }
@@ -413,6 +417,32 @@ public final class BoundsTest {
         due("18: 999 is not enough", far.sure(0, 999, 0), -5);
     }
 
+    /** A line ahead may be surer than one behind, as a higher one brings more pace to the next gate. */
+    private static void surerAhead() {
+        FortyGates x = one(GATE, 0, 0, 9);
+        x.gate(GATE, 0, 0);
+        slope(x, "ice 20 g=1&p=5;wax 60 g=1&p=5");
+        due("14: line 2 and pace 5 are quickest", x.quickest(0, 0), 2);
+        // 40 less 60, and by line 0 36, by line 1 5 and 27, by line 2 10 and 18
+        due("14: 58 and 8", x.quickest(0, -1), 66);
+        due("17: surely by another one", x.surest(0, 999, 0), 1);
+        due("18: the first of those", x.sure(0, 999, 0), 0);
+        due("18: the first of those, second gate", x.sure(0, 999, 1), 0);
+        due("17: surely, just so", x.surest(0, 92, 1), 1);
+        due("18: surely, just so", x.sure(0, 92, 0), 0);
+        // 92 by line 0 and 0; within 91 by line 2 alone: the surest there is 2, OVER 6
+        due("17: within 91", x.surest(0, 91, 0), 7);
+        due("17: within 91, below", x.surest(0, 91, 1), 10);
+        due("18: within 91", x.sure(0, 91, 0), 2);
+        due("18: within 91, second gate", x.sure(0, 91, 1), 2);
+        // none is sure: by pace 4 and line 2 OVER is 1, by pace 5 it is 6 at least
+        slope(x, "ice 16 g=1&p=4;ice 20 g=1&p=5");
+        due("17: a less sure one is behind", x.surest(0, 999, 0), 19);
+        due("17: a less sure one is behind, below", x.surest(0, 999, 1), 20);
+        due("18: a less sure one is behind", x.sure(0, 999, 0), 0);
+        due("18: a less sure one is behind, second gate", x.sure(0, 999, 1), 2);
+    }
+
     private static void carry() {
         // GATE, turn 9, skill 9: by 3 line 0: 48; by 6 line 0: OVER 2: 36 and 6: 42, line 1: 41
         due("19: less by more pace", one(GATE, 0, 9, 9).carry(0, 0), 7);
@@ -672,6 +702,16 @@ public final class BoundsTest {
         }
         x.see(0, 54);
         due("31: the seventh is not so", x.fits(0, -1), 0);
+        int[][] otherwise = {{53, 58}, {58, 53}, {53, 58, 53}, {58, 53, 58}, {53, 58, 58}, {58, 53, 53}, {53, 0}, {0, 53}};
+        for (int[] times : otherwise) {
+            x.see(-1, 0);
+            for (int time : times) {
+                x.see(0, time);
+            }
+            due("31: of one gate twice, otherwise", x.fits(0, -1), 0);
+            due("31: no line for both", x.fits(0, 0), -5);
+            due("32: nobody for both", x.who(), 0);
+        }
         x.see(-1, 0);
         x.gate(GATE, 0, 0);
         x.see(0, 53);
@@ -846,6 +886,78 @@ public final class BoundsTest {
         x.image();
         x.gate(GATE, 0, 0);
         due("39: to the newest", x.undo(), 2);
+    }
+
+    /** Of what was seen and booked an image has the gates and the skiers, too. */
+    private static void noted() {
+        FortyGates x = one(GATE, 0, 0, 9);
+        x.gate(GATE, 0, 0);
+        x.skier(8);
+        slope(x, "wax 1 s=8&g=0");
+        x.see(1, 102);
+        x.book(1, 91);
+        due("34: so", x.looked(), -5);
+        due("31: so", x.fits(0, -1), 2);
+        x.image();
+        x.see(-1, 0);
+        x.see(0, 48);
+        x.book(-1, 0);
+        x.book(0, 92);
+        due("34: so, too", x.looked(), -5);
+        due("31: so, too", x.fits(0, -1), 3);
+        x.undo();
+        due("34: so again", x.looked(), -5);
+        due("31: so again", x.fits(0, -1), 2);
+    }
+
+    /** Five slopes of 100 bytes: of each the newest one alone holds, whole. */
+    private static void longSlopes() {
+        FortyGates x = one(GATE, 0, 0, 9);
+        for (int i = 0; i < 5; i++) {
+            String text = "wax " + (i + 1) + " " + "g<1&".repeat(20) + "g<10&g<11&g<12";
+            due("3: 100 bytes", text.length(), 100);
+            due("3: slope " + i, Scene.slope(x, text), i);
+            due("3: it holds", x.quickest(0, -1), 47 - i);
+        }
+        FortyGates y = one(GATE, 0, 0, 9);
+        for (int i = 0; i < 5; i++) {
+            String text = "wax " + (i + 1) + " " + "g>1|".repeat(20) + "g>10|g>11|g<12";
+            due("3: slope " + i, Scene.slope(y, text), i);
+            due("3: it holds", y.quickest(0, -1), 47 - i);
+        }
+        FortyGates z = slope(one(GATE, 0, 0, 9), "wax 1 g=0;wax 1 k=0;wax 1 t=0;wax 1 p=3;wax 1 r=0;wax 1 s=9;wax 1 g<1;wax 1 p<4;wax 1 p>2");
+        due("1: nine of ten clauses", z.quickest(0, -1), 39);
+        z = slope(z, "rut 1;fog 1;wax 1 t=0;wax 1 p=3;wax 1 r=0;wax 1 s=9;wax 1 g<1;wax 1 p<4;wax 1 p>2;wax 1 k=0");
+        due("1: the last of ten clauses is one, too", z.quickest(0, -1), 40);
+    }
+
+    /** Whether a condition holds at gate 0, by pace 3, no runs and skill 9: g=0 does, and g=1 does not. */
+    private static void holds(boolean due, String... conditions) {
+        for (String condition : conditions) {
+            due("1: " + condition, slope(one(GATE, 0, 0, 9), "wax 9 " + condition).quickest(0, -1), due ? 39 : 48);
+        }
+    }
+
+    private static void conditions() {
+        holds(true, "g=0", "!g=1", "!!g=0", "!!!!g=0", "!!!!!g=1", "(g=0)", "(((((g=0)))))", "!(g=1)", "!(!(g=0))");
+        holds(false, "g=1", "!g=0", "!!g=1", "!!!!g=1", "!!!!!g=0", "(g=1)", "(((((g=1)))))", "!(g=0)", "!(!(g=1))");
+        // & ahead of |, whatever comes first
+        holds(true, "g=0|g=1&g=1", "g=1&g=1|g=0", "g=0|g=0&g=1", "g=1&g=0|g=0", "g=1|g=0&g=0", "g=0&g=0|g=1");
+        holds(false, "g=1|g=1&g=0", "g=0&g=1|g=1", "g=1|g=0&g=1", "g=1&g=0|g=1", "g=1|g=1|g=1", "g=0&g=0&g=1");
+        // unless ( and ) stand there
+        holds(false, "(g=0|g=1)&g=1", "g=1&(g=1|g=0)", "(g=0|g=0)&g=1", "g=1&(g=0|g=0)");
+        holds(true, "(g=0|g=1)&g=0", "g=0&(g=1|g=0)", "(g=1|g=0)&(g=0|g=1)");
+        // what is in ( and ) is worked out by itself
+        holds(true, "g=0|(g=1)", "g=1|(g=0)", "(g=0)|(g=1)", "(g=1)|(g=0)", "g=0&(g=0)", "(g=0)&g=0", "g=1|(g=1|(g=0))");
+        holds(false, "g=0&(g=1)", "g=1&(g=0)", "(g=0)&(g=1)", "(g=1)&(g=0)", "g=1|(g=1)", "(g=1)|g=1", "g=0&(g=0&(g=1))");
+        holds(true, "g=0|(g=1&(g=1|(g=1&(g=1|(g=1)))))", "g=1|(g=0&(g=1|(g=0&(g=1|(g=0)))))");
+        holds(false, "g=1|(g=0&(g=1|(g=0&(g=1|(g=1)))))", "g=0&(g=0|(g=0))&g=1");
+        // a ! is for its F alone
+        holds(true, "!g=0|g=0", "!g=1&g=0", "g=0&!g=1", "g=1|!g=1", "!(g=0&g=1)", "!(g=1|g=1)", "!g=1|g=1", "!(g=1)&g=0");
+        holds(false, "!g=1&g=1", "!g=0&g=0", "g=0&!g=0", "g=1|!g=0", "!(g=0|g=1)", "!(g=0&g=0)", "!g=0|g=1", "!(g=1)&g=1");
+        // each sign at the number ahead of it, at it and behind it
+        holds(true, "p>2", "p=3", "p<4", "s>8", "s=9", "s<10", "t=0", "t<1", "k<1", "r<1", "r=0", "g<99");
+        holds(false, "p>3", "p=2", "p=4", "p<3", "s>9", "s=8", "s=10", "s<9", "t>0", "t<0", "t=1", "k>0", "r>0", "r=10", "g>99");
     }
 
     private static void noGates() {

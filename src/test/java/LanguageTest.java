@@ -35,6 +35,8 @@ public final class LanguageTest {
         face();
         members();
         words(text);
+        library(plain(text));
+        loops(plain(text));
         lengths(text);
         CHECK.end();
     }
@@ -133,8 +135,36 @@ public final class LanguageTest {
                 .replaceAll("\"(\\\\.|[^\"\\\\])*\"", "\"\"").replaceAll("'(\\\\.|[^'\\\\])'", "''");
     }
 
+    /** Of the library only two functions of Math, one of System and what Strings have is called. */
+    private static void library(String code) {
+        Set<String> allowed = Set.of("Math.min", "Math.max", "System.arraycopy", "Long.MIN_VALUE");
+        Set<String> own = new TreeSet<>();
+        for (Class<?> type : types()) {
+            own.add(type.getSimpleName());
+        }
+        Matcher names = Pattern.compile("(?<![\\w.])([A-Z][a-z]\\w*)(\\.\\w+)?").matcher(code);
+        while (names.find()) {
+            CHECK.so("4: " + names.group(), own.contains(names.group(1)) || allowed.contains(names.group())
+                    || names.group().equals("String"));
+        }
+        CHECK.so("3: arrays of one dimension", !code.contains("[]["));
+    }
+
+    /** Each loop counts one number up or down against a bound that stands in its head. */
+    private static void loops(String code) {
+        Matcher heads = Pattern.compile("for \\(([^{]*)\\) \\{").matcher(code);
+        Pattern fine = Pattern.compile("int (\\w+) = [^;]+; (\\1 < [^;]+; \\1\\+\\+|\\1 >= 0; \\1--)");
+        int loops = 0;
+        while (heads.find()) {
+            loops++;
+            CHECK.so("9: a loop by " + heads.group(1), fine.matcher(heads.group(1).replaceAll("<=", "<")).matches());
+        }
+        int all = code.split("\\bfor \\(", -1).length - 1;
+        CHECK.due("9: all loops", loops, all);
+    }
+
     private static void lengths(String text) {
-        Matcher head = Pattern.compile("(?m)^( {4}| {8})[A-Za-z][^;={}]*\\) \\{\n").matcher(text);
+        Matcher head = Pattern.compile("(?m)^( {4}| {8})(?!if|for|switch)[A-Za-z][^;={}]*\\) \\{\n").matcher(text);
         int methods = 0;
         while (head.find()) {
             int end = text.indexOf("\n" + head.group(1) + "}\n", head.end());
@@ -143,6 +173,10 @@ public final class LanguageTest {
                 methods++;
                 long lines = text.substring(head.start(), end).chars().filter(c -> c == '\n').count() + 1;
                 CHECK.so("11: lines of " + head.group().trim(), lines <= 60);
+                Matcher name = Pattern.compile("(\\w+)\\(").matcher(head.group());
+                String body = plain(text.substring(head.end(), end));
+                CHECK.so("8: calls itself: " + head.group().trim(),
+                        name.find() && !Pattern.compile("(?<![\\w.])" + name.group(1) + "\\(").matcher(body).find());
             }
         }
         CHECK.so("11: methods found: " + methods, methods > 80);
