@@ -21,6 +21,7 @@ public final class BoundsTest {
         takesHeld();
         rutCut();
         rowByRuns();
+        rowsOfSeven();
         runsByTen();
         stays();
         fractions();
@@ -39,11 +40,14 @@ public final class BoundsTest {
         mean();
         slowest();
         seen();
+        seenOfSeven();
         who();
         booked();
         acts();
         actsOfSeven();
         fullAndUndone();
+        lastUndone();
+        paceUndone();
         noted();
         longSlopes();
         conditions();
@@ -272,6 +276,35 @@ public final class BoundsTest {
         for (int n = 0; n <= 8; n++) {
             x.plan(0, 0);
             due("1: the row by run " + n, x.run(0), 44 + 2 * (n % 4) + 3);
+        }
+    }
+
+    /** Each gate has a row of its own. */
+    private static void rowsOfSeven() {
+        FortyGates x = new FortyGates();
+        x.skier(9);
+        for (int gate = 0; gate < 7; gate++) {
+            x.gate(TOLD, 0, 0);
+            x.plan(gate, 0);
+            for (int k = 0; k < 4; k++) {
+                due("8: 0 at first", x.row(gate, k, (3 * gate + k) % 10), 0);
+            }
+        }
+        // by 3, 5, 7, 9, 9, .. and 1 more
+        int[] takes = {44, 36, 28, 24, 24, 24, 24};
+        for (int n = 0; n <= 5; n++) {
+            int together = 0;
+            for (int gate = 0; gate < 7; gate++) {
+                int row = (3 * gate + n % 4) % 10;
+                due("1: the row of " + gate + " by run " + n, x.would(0, 10 + gate), takes[gate] + row);
+                together += takes[gate] + row;
+            }
+            due("1: all rows together by run " + n, x.run(0), together);
+        }
+        for (int gate = 0; gate < 7; gate++) {
+            for (int k = 0; k < 4; k++) {
+                due("8: what it was", x.row(gate, k, 0), (3 * gate + k) % 10);
+            }
         }
     }
 
@@ -730,6 +763,36 @@ public final class BoundsTest {
         due("31: of both the first, second gate", x.fits(0, 1), 2);
     }
 
+    /** To the last of seven gates one comes by 9, whatever the line: it takes 24, 29 or 34, and each other one 1. */
+    private static void seenOfSeven() {
+        FortyGates x = one(GATE, 0, 0, 9);
+        for (int i = 1; i < 7; i++) {
+            x.gate(GATE, 0, 0);
+        }
+        slope(x, "wax 99 g<6");
+        for (int c = 0; c <= 2; c++) {
+            x.see(-1, 0);
+            x.see(6, 6 + 24 + 5 * c);
+            due("31: lines that end so", x.fits(0, -1), 729);
+            for (int k = 0; k <= 6; k++) {
+                due("31: the first of them at " + k, x.fits(0, k), k == 6 ? c : 0);
+            }
+            x.see(5, 6);
+            due("31: and all so at the last but one", x.fits(0, -1), 729);
+            x.see(5, 7);
+            due("31: and none", x.fits(0, -1), 0);
+        }
+        // now each line of the first is told by itself, as well as of the last
+        slope(x, "wax 99 g<6&g>0");
+        x.see(-1, 0);
+        x.see(0, 58);
+        x.see(6, 58 + 5 + 29);
+        due("31: of both ends", x.fits(0, -1), 243);
+        due("31: the first one's", x.fits(0, 0), 2);
+        due("31: the last one's", x.fits(0, 6), 1);
+        due("31: between them", x.fits(0, 3), 0);
+    }
+
     private static void who() {
         FortyGates x = new FortyGates();
         x.gate(GATE, 0, 0);
@@ -886,6 +949,80 @@ public final class BoundsTest {
         x.image();
         x.gate(GATE, 0, 0);
         due("39: to the newest", x.undo(), 2);
+    }
+
+    /** The last that there is room for is in an image, too. */
+    private static void lastUndone() {
+        FortyGates x = new FortyGates();
+        for (int i = 0; i < 5; i++) {
+            x.skier(i + 1);
+        }
+        for (int i = 0; i < 7; i++) {
+            x.gate(TOLD, 0, i + 1);
+            x.row(i, 0, i + 2);
+            x.row(i, 3, i + 1);
+            x.plan(i, i % 3);
+            x.see(0, i);
+        }
+        for (int i = 0; i < 8; i++) {
+            x.book(4, 0);
+        }
+        Scene.feed(x, Scene.LONGEST);
+        x.image();
+        due("3: the tape is a slope", x.slope(), 0);
+        Scene.feed(x, "x".repeat(100));
+        for (int i = 0; i < 5; i++) {
+            x.skill(i, 0);
+        }
+        for (int i = 0; i < 7; i++) {
+            x.turn(i, 0);
+            x.row(i, 0, 0);
+            x.row(i, 3, 0);
+            x.plan(i, 2 - i % 3);
+        }
+        due("39: undone", x.undo(), 7);
+        for (int i = 0; i < 5; i++) {
+            due("39: skill " + i, x.skill(i, -1), i + 1);
+        }
+        for (int i = 0; i < 7; i++) {
+            due("39: turn " + i, x.of(i, 2), i + 1);
+            due("39: line " + i, x.of(i, 3), i % 3);
+            due("39: first of row " + i, x.row(i, 0, 0), i + 2);
+            due("39: last of row " + i, x.row(i, 3, 0), i + 1);
+        }
+        due("39: the tape is full", x.feed('x'), -4);
+        due("39: and all of it a slope", x.slope(), 0);
+        due("39: the eighth row", x.book(0, 0), -4);
+        due("39: the seventh seen", x.see(0, 0), -4);
+    }
+
+    /** What a gate took that is gone by an undo is nowhere in what is asked then, by whatever pace one comes there. */
+    private static void paceUndone() {
+        for (int turn = 0; turn <= 9; turn++) {
+            FortyGates x = one(OPEN, 0, 0, 9);
+            x.gate(OPEN, 0, turn);
+            x.skier(0);
+            int least = x.quickest(0, -1);
+            int other = x.quickest(1, -1);
+            int surest = x.sure(1, other, 1);
+            int set = x.set(1, 0);
+            // by 3, then by 6: 48 and 36 (and 3 times what is above 7 of the turn, or 5 and none of that)
+            int slower = turn == 9 ? 5 : turn == 8 ? 3 : 0;
+            due("14: two gates", least, 84 + slower);
+            due("19: by 3 and by 6", x.carry(0, 1), 48 - 36 - slower);
+            x.image();
+            x.gate(FLAT, 0, 9);
+            x.quickest(0, -1);
+            x.quickest(1, -1);
+            x.set(0, 1);
+            x.undo();
+            due("39: quickest of two gates again", x.quickest(0, -1), least);
+            due("39: the other one's", x.quickest(1, -1), other);
+            due("39: its surest", x.sure(1, other, 1), surest);
+            due("39: set", x.set(1, 0), set);
+            due("39: who is first", x.rank(0), 0);
+            due("39: what pace is worth", x.carry(0, 1), 48 - 36 - slower);
+        }
     }
 
     /** Of what was seen and booked an image has the gates and the skiers, too. */
