@@ -342,6 +342,15 @@ public final class PromiseTest {
                 83, 10, 0);
         passes(STEEP, 1, "wax 5 p=3", 47, 1, 2);
         passes(STEEP, 1, "wax 5 p=4", 52, 1, 2);
+        passes(STEEP, 1, "ice 2 p=3", 58, 3, 0);
+        passes(STEEP, 1, "ice 2 p=4", 52, 1, 2);
+        passes(TOLD, 1, "ice 2 p=3", 58, 3, 0);
+        passes(TOLD, 1, "ice 2 p=4;wax 5 p=4", 52, 1, 2);
+        passes(TOLD, 1, "ice 2 p=3;wax 5 p=3", 53, 3, 0);
+        passes(TIGHT, 1, "ice 2 t=6", 65, 4, 0);
+        passes(TIGHT, 1, "ice 2 t=8", 59, 2, 0);
+        passes(BLIND, 1, "fog 3;ice 2 t=6", 74, 7, 0);
+        passes(BLIND, 1, "fog 3;ice 2 t>6", 68, 5, 0);
         passes(TIGHT, 1, "wax 5 t=6", 54, 2, 0);
         passes(TIGHT, 1, "wax 5 t=8", 59, 2, 0);
         passes(TOLD, 1, "wax 5 k=6", 47, 1, 2);

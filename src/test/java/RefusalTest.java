@@ -1,8 +1,12 @@
+import java.util.Map;
+import java.util.Set;
+import java.util.TreeSet;
 import java.util.function.ToLongFunction;
 
 /**
  * For each promise its refusals: what each answers, that it changes nothing, which one is told of
- * several, and that the last number ahead of each is taken. Also that what is asked changes nothing.
+ * several, and that the last number ahead of each is taken. Also that what is asked changes nothing,
+ * and that what changes something changes nothing else.
  */
 public final class RefusalTest {
     private static final Check CHECK = new Check();
@@ -51,6 +55,9 @@ public final class RefusalTest {
         undo();
         count();
         askedAlone();
+        changesAlone();
+        thereAndBack();
+        imageAlone();
         CHECK.end();
     }
 
@@ -777,6 +784,101 @@ public final class RefusalTest {
             x.count(0);
             x.of(0, 0);
             CHECK.so("what is asked changes nothing" + name(scene), Scene.seen(x).equals(SEEN[scene]));
+        }
+    }
+
+    /** A call changes these things, and nothing else. */
+    private static void changes(String what, ToLongFunction<FortyGates> call, String... due) {
+        FortyGates x = Scene.make(Scene.SOME);
+        call.applyAsLong(x);
+        Set<String> changed = differences(Scene.held(Scene.make(Scene.SOME)), Scene.held(x));
+        CHECK.so(what + " changes " + changed, changed.equals(new TreeSet<>(Set.of(due))));
+    }
+
+    private static Set<String> differences(Map<String, Integer> some, Map<String, Integer> others) {
+        Set<String> names = new TreeSet<>(some.keySet());
+        names.addAll(others.keySet());
+        names.removeIf(name -> some.containsKey(name) && others.containsKey(name)
+                && some.get(name).intValue() == others.get(name));
+        return names;
+    }
+
+    private static void changesAlone() {
+        changes("2: feed", x -> x.feed('g'), "tape", "read");
+        changes("3: a fault", x -> x.slope(), "tape", "read");
+        changes("3: a slope", x -> Scene.slope(x, "g 9"), "tape", "read", "slopes", "rut", "fog");
+        changes("4: gate", x -> x.gate(5, 1, 2), "gates", "kind 3", "v 3", "turn 3", "line 3", "row 3 0", "row 3 1", "row 3 2",
+                "row 3 3");
+        changes("6: turn", x -> x.turn(0, 9), "turn 0");
+        changes("7: plan", x -> x.plan(2, 2), "line 2");
+        changes("8: row", x -> x.row(1, 2, 3), "row 1 2");
+        changes("9: skier", x -> x.skier(3), "skiers", "skill 3");
+        changes("10: skill", x -> x.skill(1, 1), "skill 1");
+        changes("10: skill stays", x -> x.skill(1, -1));
+        changes("12: run", x -> x.run(2), "runs");
+        changes("30: see", x -> x.see(1, 5), "seen");
+        changes("30: none seen", x -> x.see(-1, 0), "seen");
+        changes("33: book", x -> x.book(1, 5), "book");
+        changes("33: none booked", x -> x.book(-1, 0), "book");
+        changes("35: act", x -> x.act(0, 0, 5), "ran", "trace 0", "trace 1", "trace 2", "trace 3", "trace 4", "trace 5",
+                "trace 6");
+        changes("35: no act", x -> x.act(0, 3, 5), "ran", "trace 0", "trace 1", "trace 2", "trace 3", "trace 4", "trace 5",
+                "trace 6");
+        changes("37: as", x -> x.as(0, 0));
+    }
+
+    /** What was changed and changed back is as it was, with all that is told of it. */
+    private static void thereAndBack() {
+        for (int scene = Scene.SOME; scene <= Scene.FULL; scene++) {
+            FortyGates x = Scene.make(scene);
+            int told = scene == Scene.SOME ? 1 : 6;
+            for (int gate = 0; gate < Scene.GATES[scene]; gate++) {
+                x.turn(gate, x.turn(gate, 9));
+                x.plan(gate, x.plan(gate, 0));
+            }
+            for (int k = 0; k < 4; k++) {
+                x.row(told, k, x.row(told, k, 5));
+            }
+            for (int skier = 0; skier < Scene.SKIERS[scene]; skier++) {
+                x.skill(skier, x.skill(skier, 4));
+            }
+            CHECK.so("changed and changed back" + name(scene), Scene.seen(x).equals(SEEN[scene]));
+        }
+        FortyGates x = Scene.make(Scene.SOME);
+        int first = x.would(0, 10);
+        int both = first + x.would(0, 11);
+        x.see(-1, 0);
+        x.see(0, first);
+        x.see(1, both);
+        CHECK.so("30: seen again, and the book stays", Scene.seen(x).equals(SEEN[Scene.SOME]));
+        FortyGates y = Scene.make(Scene.SOME);
+        int least = y.quickest(0, -1);
+        int other = y.quickest(1, -1);
+        y.book(-1, 0);
+        y.book(0, least);
+        y.book(1, other + 1);
+        CHECK.so("33: booked again, and what was seen stays", Scene.seen(y).equals(SEEN[Scene.SOME]));
+    }
+
+    /** An image changes nothing but what an undo brings back; THE TRACE stays by both. */
+    private static void imageAlone() {
+        for (int scene = Scene.EMPTY; scene <= Scene.FULL; scene++) {
+            FortyGates x = Scene.make(scene);
+            String trace = Scene.traceOf(x);
+            x.image();
+            CHECK.so("38: the trace stays" + name(scene), Scene.traceOf(x).equals(trace));
+            Map<String, Integer> was = Scene.held(Scene.make(scene));
+            Map<String, Integer> is = Scene.held(x);
+            for (String thing : was.keySet()) {
+                if (!thing.startsWith("undo")) {
+                    CHECK.due("38: " + thing + name(scene), is.getOrDefault(thing, MIN), was.get(thing));
+                    CHECK.due("39: " + thing + name(scene), thing.startsWith("trace") || thing.equals("ran") ? was.get(thing)
+                            : is.getOrDefault("undone " + thing, MIN), was.get(thing));
+                }
+            }
+            FortyGates y = Scene.make(scene);
+            y.undo();
+            CHECK.so("39: the trace stays" + name(scene), Scene.traceOf(y).equals(trace));
         }
     }
 }

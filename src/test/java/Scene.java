@@ -1,3 +1,6 @@
+import java.util.Map;
+import java.util.TreeMap;
+
 /** Objects made by like calls each time, and all that can be seen of one of them. */
 final class Scene {
     /** Nothing at all; three gates, three skiers and room for more; nothing that has room for more. */
@@ -148,5 +151,42 @@ final class Scene {
             }
         }
         text.append("\nslope ").append(x.slope()).append(' ').append(x.told(1)).append(' ').append(x.told(2));
+    }
+
+    /** What an object holds, thing by thing, as a name and a number; it is used up by that. */
+    static Map<String, Integer> held(FortyGates x) {
+        Map<String, Integer> held = new TreeMap<>();
+        for (int i = 0; i < x.count(6); i++) {
+            held.put("trace " + i, x.trace(i));
+        }
+        held.put("ran", x.count(6));
+        hold(x, "", held);
+        held.put("undo", x.undo());
+        hold(x, "undone ", held);
+        return held;
+    }
+
+    private static void hold(FortyGates x, String ahead, Map<String, Integer> held) {
+        String[] counts = {"gates", "skiers", "slopes", "seen", "book", "tape"};
+        for (int what = 0; what < counts.length; what++) {
+            held.put(ahead + counts[what], x.count(what));
+        }
+        String[] told = {"runs", "rut", "fog"};
+        for (int what = 0; what < told.length; what++) {
+            held.put(ahead + told[what], x.told(what));
+        }
+        String[] of = {"kind ", "v ", "turn ", "line "};
+        for (int gate = 0; gate < x.count(0); gate++) {
+            for (int what = 0; what < of.length; what++) {
+                held.put(ahead + of[what] + gate, x.of(gate, what));
+            }
+            for (int k = 0; k < 4; k++) {
+                held.put(ahead + "row " + gate + " " + k, x.row(gate, k, 0));
+            }
+        }
+        for (int skier = 0; skier < x.count(1); skier++) {
+            held.put(ahead + "skill " + skier, x.skill(skier, -1));
+        }
+        held.put(ahead + "read", x.slope());
     }
 }
